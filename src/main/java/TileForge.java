@@ -57,7 +57,7 @@ public final class TileForge {
         result = new Picture();
         row = new ByteRow();
         coder = new Coder();
-        rowReader = new RowReader(row);
+        rowReader = new RowReader();
     }
 
     public int size(int width, int height) throws IllegalArgumentException {
@@ -113,7 +113,7 @@ public final class TileForge {
         if (!row.hasGoodHead()) {
             throw new UnsupportedOperationException();
         }
-        fate = rowReader.readInto(result);
+        fate = rowReader.readInto(result, row);
         blocksRead = result.modesKnown;
         bitsRead = rowReader.bitsOfBlocks;
         return blocksRead;
@@ -326,9 +326,11 @@ public final class TileForge {
         }
     }
 
+    /** Every read answers NO_BIT where it needs a bit behind the last one. */
     private static final class ByteRow {
         final int[] bytes = new int[MOST_BYTES];
         int length;
+        int position;
 
         boolean has(int k) {
             return k >= 0 && k < length && k < MOST_BYTES;
@@ -342,6 +344,45 @@ public final class TileForge {
         void become(BitWriter writer) {
             System.arraycopy(writer.bytes, 0, bytes, 0, MOST_BYTES);
             length = Math.min(writer.bytesNeeded(), MOST_BYTES);
+        }
+
+        void beginBehindHead() {
+            position = HEAD_BYTES * BYTE_BITS;
+        }
+
+        int readBit() {
+            int k = position / BYTE_BITS;
+            if (k < 0 || k >= length || k >= MOST_BYTES) {
+                return NO_BIT;
+            }
+            int bit = (bytes[k] >> (BYTE_BITS - 1 - position % BYTE_BITS)) & 1;
+            position++;
+            return bit;
+        }
+
+        int readBits(int howMany) {
+            int value = 0;
+            for (int i = 0; i < howMany; i++) {
+                int bit = readBit();
+                if (bit == NO_BIT) {
+                    return NO_BIT;
+                }
+                value = value * 2 + bit;
+            }
+            return value;
+        }
+
+        int readOnes() {
+            for (int ones = 0; ones < MOST_ONES; ones++) {
+                int bit = readBit();
+                if (bit == NO_BIT) {
+                    return NO_BIT;
+                }
+                if (bit == 0) {
+                    return ones;
+                }
+            }
+            return MOST_ONES;
         }
     }
 
@@ -373,55 +414,6 @@ public final class TileForge {
 
         int bytesNeeded() {
             return (bits + BYTE_BITS - 1) / BYTE_BITS;
-        }
-    }
-
-    /** Every read answers NO_BIT where it needs a bit behind the last one. */
-    private static final class BitReader {
-        final ByteRow from;
-        int position;
-
-        BitReader(ByteRow row) {
-            from = row;
-        }
-
-        void beginBehindHead() {
-            position = HEAD_BYTES * BYTE_BITS;
-        }
-
-        int readBit() {
-            int k = position / BYTE_BITS;
-            if (!from.has(k)) {
-                return NO_BIT;
-            }
-            int bit = (from.bytes[k] >> (BYTE_BITS - 1 - position % BYTE_BITS)) & 1;
-            position++;
-            return bit;
-        }
-
-        int readBits(int howMany) {
-            int value = 0;
-            for (int i = 0; i < howMany; i++) {
-                int bit = readBit();
-                if (bit == NO_BIT) {
-                    return NO_BIT;
-                }
-                value = value * 2 + bit;
-            }
-            return value;
-        }
-
-        int readOnes() {
-            for (int ones = 0; ones < MOST_ONES; ones++) {
-                int bit = readBit();
-                if (bit == NO_BIT) {
-                    return NO_BIT;
-                }
-                if (bit == 0) {
-                    return ones;
-                }
-            }
-            return MOST_ONES;
         }
     }
 
@@ -476,7 +468,7 @@ public final class TileForge {
             tally.learn(u);
         }
 
-        int readU(BitReader in, int index) {
+        int readU(ByteRow in, int index) {
             Tally tally = index == 0 ? first : others;
             int k = tally.lowBits();
             int ones = in.readOnes();
@@ -681,28 +673,21 @@ public final class TileForge {
     }
 
     private static final class RowReader {
-        final ByteRow from;
-        final BitReader in;
         final Block block = new Block();
         final LevelCode levelCode = new LevelCode();
         int bitsOfBlocks;
 
-        RowReader(ByteRow row) {
-            from = row;
-            in = new BitReader(row);
-        }
-
         /** Only for a row with a good head. */
-        int readInto(Picture into) {
+        int readInto(Picture into, ByteRow in) {
             int ending = WHOLE;
             levelCode.begin();
             in.beginBehindHead();
             bitsOfBlocks = in.position;
-            into.begin(from.bytes[0] * BLOCK_SIDE, from.bytes[1] * BLOCK_SIDE);
+            into.begin(in.bytes[0] * BLOCK_SIDE, in.bytes[1] * BLOCK_SIDE);
             for (int y = 0; y < into.height; y += BLOCK_SIDE) {
                 for (int x = 0; x < into.width; x += BLOCK_SIDE) {
                     if (ending == WHOLE) {
-                        ending = readBlock(into, x, y);
+                        ending = readBlock(into, in, x, y);
                     }
                     if (ending != WHOLE) {
                         makeGrey(into, x, y);
@@ -712,23 +697,23 @@ public final class TileForge {
             return ending;
         }
 
-        int readBlock(Picture into, int x, int y) {
+        int readBlock(Picture into, ByteRow in, int x, int y) {
             int way = in.readBits(MODE_BITS);
             if (way == NO_BIT) {
                 return ENDED;
             }
-            int ending = readLevels();
+            int ending = readLevels(in);
             if (ending == WHOLE) {
                 block.lookAround(into, x, y);
                 block.foretell(way);
-                block.rebuild(into, x, y, from.bytes[2]);
+                block.rebuild(into, x, y, in.bytes[2]);
                 into.addMode(way);
                 bitsOfBlocks = in.position;
             }
             return ending;
         }
 
-        int readLevels() {
+        int readLevels(ByteRow in) {
             int length = in.readBits(LENGTH_BITS);
             if (length == NO_BIT) {
                 return ENDED;

@@ -210,7 +210,8 @@ public final class DecodeTest {
     private static void levelsBecomePixels() {
         TileForge t = Streams.of(1, 1, 5, "00 00010 0000 0100");
         t.decode();
-        Due.same("level 1 is -2, times 32: 4 less on the left, 4 more on the right", "124 124 132 132", Streams.pixelsOf(t, 2, 4, 1));
+        // Level 1 is -2, times 32: 4 less on the left, 4 more on the right.
+        Due.same("a level of the first row", "124 124 132 132", Streams.pixelsOf(t, 2, 4, 1));
         TileForge far = Streams.of(1, 1, 5, "00 00101 0000 0000 000 000 " + LONG + Streams.number(8190, 14));
         far.decode();
         Due.same("a level of the second row, above", "0 0 0 0", Streams.pixelsOf(far, 2, 4, 1));

@@ -8,7 +8,8 @@ import java.util.TreeSet;
 /** The public face of the document, and that nothing else of the class can be seen from outside. */
 public final class FaceTest {
     private static final String FACE = "apart(int,int)double:IllegalArgumentException,IllegalStateException,"
-            + "UnsupportedOperationException count(int)int:IllegalArgumentException cut(int)int:IllegalArgumentException "
+            + "UnsupportedOperationException count(int)int:IllegalArgumentException "
+            + "cut(int)int:IllegalArgumentException "
             + "damage(int,int)int:IllegalArgumentException,IndexOutOfBoundsException "
             + "decode()int:UnsupportedOperationException "
             + "encode(int)int:IllegalArgumentException,IllegalStateException "
