@@ -3,8 +3,26 @@ final class Due {
     private static final int MOST_TOLD = 40;
     private static int checked = 0;
     private static int wrong = 0;
+    private static String place = "";
 
     private Due() {
+    }
+
+    /** One sentence of the document, with its own words, so that what is broken can be found there. */
+    static void sentence(String where, String words, Runnable test) {
+        int checkedBefore = checked;
+        int wrongBefore = wrong;
+        place = where + " \"" + words + "\": ";
+        try {
+            test.run();
+        } catch (RuntimeException e) {
+            tell("the test", "no exception", e.toString());
+        }
+        if (checked == checkedBefore) {
+            tell("the test", "answers", "none");
+        }
+        System.out.println((wrong == wrongBefore ? "  holds   " : "  BROKEN  ") + where + ": " + words);
+        place = "";
     }
 
     static void same(String call, int want, int got) {
@@ -50,7 +68,7 @@ final class Due {
         if (!want.equals(got)) {
             wrong++;
             if (wrong <= MOST_TOLD) {
-                System.out.println(call + " answered " + got + ", due is " + want);
+                System.out.println(place + call + " answered " + got + ", due is " + want);
             }
         }
     }

@@ -13,6 +13,11 @@ final class Streams {
     /** The head, then the bits (spaces do not count), the last byte filled up with 0. */
     static TileForge of(int across, int down, int q, String bits) {
         TileForge t = new TileForge();
+        put(t, across, down, q, bits);
+        return t;
+    }
+
+    static void put(TileForge t, int across, int down, int q, String bits) {
         load(t, across, down, q);
         StringBuilder all = new StringBuilder(bits.replace(" ", ""));
         while (all.length() % 8 != 0) {
@@ -21,7 +26,6 @@ final class Streams {
         for (int i = 0; i < all.length(); i += 8) {
             t.damage(3 + i / 8, Integer.parseInt(all.substring(i, i + 8), 2));
         }
-        return t;
     }
 
     static String number(int value, int bits) {
@@ -34,6 +38,21 @@ final class Streams {
 
     static String ones(int howMany) {
         return "1".repeat(howMany);
+    }
+
+    /** The number u with k low bits, in the form that the document asks for. */
+    static String code(int u, int k) {
+        return u >> k >= 12 ? ones(12) + number(u, 14) : ones(u >> k) + "0" + number(u, k);
+    }
+
+    /** The bits of the latest encode, the filling of the last byte left out. */
+    static String bitsOf(TileForge t) {
+        StringBuilder text = new StringBuilder();
+        int length = t.stream(-1);
+        for (int k = 0; k < length; k++) {
+            text.append(number(t.stream(k), 8));
+        }
+        return text.substring(24, t.count(2));
     }
 
     static String bytesOf(TileForge t) {
